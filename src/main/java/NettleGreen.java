@@ -409,11 +409,18 @@ public final class NettleGreen {
     }
 
     public int sure(int what, int k) {
-        int bits = sightings.fitting(told, k);
-        if (bits == 0 || !isZeroOrOne(what)) {
+        if (!isZeroOrOne(what)) {
             return NONE;
         }
-        return what == 0 ? Integer.numberOfTrailingZeros(bits) : 31 - Integer.numberOfLeadingZeros(bits);
+        int bits = sightings.fitting(told, k);
+        int found = NONE;
+        for (int firm = 0; firm <= MOST_FIRM; firm++) {
+            boolean fitting = (bits >> firm & 1) == 1;
+            if (fitting && (what == 1 || found == NONE)) {
+                found = firm;
+            }
+        }
+        return found;
     }
 
     public int ask(int days, int what, int k) {

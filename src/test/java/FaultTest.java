@@ -54,6 +54,8 @@ public final class FaultTest {
         fault(1, "^abcdefghi");
         fault(1, "person a firm ^3learns 2;");
         fault(1, "bed ^9x;");
+        fault(1, "bed ^9a;");
+        fault(1, "bed ^9z;");
         fault(1, "bed ^999x;");
         good("person a firm 0030;", 1);
         good("lumps 9999;", 0);

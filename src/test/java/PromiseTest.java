@@ -13,6 +13,7 @@ public final class PromiseTest {
         promise1();
         promises2And3();
         promises4And5();
+        promise4Anew();
         promises6To9();
         promises10And11();
         promise12();
@@ -21,6 +22,7 @@ public final class PromiseTest {
         promises13To16();
         promises17And18();
         promises19To22();
+        noFlares();
         promise23();
         promise24();
         promises25And26();
@@ -138,6 +140,38 @@ public final class PromiseTest {
         due("4: nobody", green.about(0), 0);
     }
 
+    private static void promise4Anew() {
+        NettleGreen green = told(GREEN + "lumps own + 1;");
+        green.seen(1, 2, 3, true);
+        green.fits(0);
+        green.image(0);
+        Check.put(green, "person a firm 3;person b firm 4;meet a b on 0;brother t cools 9 round a;bed 9;flares 9;draw 9;lumps 1;bed");
+        due("4: a fault at its end", green.hamlet(), NONE);
+        due("4: the formula that was", green.touch(0, 0), 6);
+        due("4: the box that was", green.back(0), 0);
+        for (int i = 0; i < 3; i++) {
+            Check.put(green, "person a firm 3;");
+            due("4: one", green.hamlet(), 1);
+            int[] want = {1, 0, 0, 0, 0, 0, 0, 0, 0, 0, 0, 0, 0, 40, 0};
+            for (int what = 0; what < want.length; what++) {
+                due("4: told so about(" + what + ")", green.about(what), want[what]);
+            }
+            due("4: an empty box", green.back(0), NONE);
+            due("4: learns as told", green.person(0, 1), 0);
+            due("4: nobody else", green.person(1, 0), NONE);
+        }
+        Check.put(green, "person a firm 3;person b firm 4;meet a b on 0;");
+        due("4: two", green.hamlet(), 2);
+        due("4: the formula if not told", green.touch(0, 0), 6);
+        due("45: all fit", green.fits(0), 31);
+        green.seen(1, 1, 5, true);
+        due("45: by this hamlet", green.fits(0), 5);
+        Check.put(green, "person a firm 3;person b firm 4;meet a b on 0;lumps own;");
+        green.hamlet();
+        green.seen(1, 1, 5, true);
+        due("45: by the next one", green.fits(0), 26);
+    }
+
     private static void promises6To9() {
         NettleGreen green = told(GREEN);
         int[][] people = {{5, 3, 2, 0}, {8, 0, 0, 0}, {0, 9, 0, 0}};
@@ -212,6 +246,13 @@ public final class PromiseTest {
             due("12: nobody meets on day " + day, green.day(), 0);
         }
         due("12: next week", green.day(), 1);
+        green = told("person a firm 9;person b firm 9;meet a b on 2;");
+        for (int day = 0; day < 999; day++) {
+            due("12: a day, and not NONE", green.day() != NONE, true);
+        }
+        due("12: behind 999 of them", green.day(), NONE);
+        due("12: doing nothing", green.about(4), 999);
+        due("39: what lies ahead goes on to day 1,003", green.next(0), 5);
     }
 
     private static void promise12Days() {
@@ -375,6 +416,7 @@ public final class PromiseTest {
         due("17: three acts", green.about(6), 3);
         for (int i = 0; i < 45; i++) {
             due("14, 15: on and off", i % 2 == 0 ? green.forbid(0) : green.allow(0), i % 2 == 0 ? 1 : 0);
+            due("17: kept acts", green.about(6), Math.min(40, 4 + i));
         }
         due("17: 40 are kept", green.about(6), 40);
         for (int i = 0; i < 40; i++) {
@@ -426,6 +468,30 @@ public final class PromiseTest {
         due("22: not any more", green.felled(0), NONE);
         green = told("person a firm 8;person b firm 30;meet a b on 4;bed 9;");
         due("22: on the 61st day", green.felled(0), NONE);
+    }
+
+    /** Without flares none lies abed and they meet on each day 0 of a week; with flares a would lie abed on day 7. */
+    private static void noFlares() {
+        NettleGreen green = told("person a firm 0 learns 1 lumps 3;person b firm 9;meet a b on 0;lumps 0;bed 9;flares 100;");
+        due("19: none", green.will(0, 7, 0), 3);
+        due("19: as the seed tells", green.will(0, 7, 1), 10);
+        due("19: without any lumps", green.will(1, 60, 1), 0);
+        due("20: no flares", green.firm(0, 60), 9);
+        due("21: no flares", green.hurt(7), 3);
+        due("22: no flares", green.felled(0), NONE);
+        due("23: no flares", green.peace(14, 0), 0);
+        due("25: no flares", green.grip(0, 30), 0);
+        due("26: no flares", green.pupil(30, 1), 3);
+        due("29: no flares", green.manners(), 57);
+        due("31: no flares", green.scourge(1), 3);
+        due("38: no flares", green.law(3), 3);
+        due("12: a day with flares", green.day(), 1);
+        due("39: no flares", green.next(0), 7);
+        due("45: no flares", green.seen(14, 0, 4, true), 0);
+        due("45: no flares", green.fits(0), 0);
+        green = told("person a firm 9 lumps 3;person b firm 9;brother t cools 1 round b;flares 100;");
+        due("24: no flares", green.rounds(0, 14), 3);
+        due("32: no flares", green.relief(0, 1), 2);
     }
 
     private static void promise23() {
@@ -508,6 +574,10 @@ public final class PromiseTest {
         due("25: nobody", green.grip(-1, 0), NONE);
         due("25: by none", green.grip(2, 0), NONE);
         due("25: nothing is done", green.person(0, 0), 0);
+        green = told("person a firm 0;person b firm 9;meet a b on 0;lumps 30-own;bed 1;");
+        due("25: 30", green.grip(0, 1), 30);
+        green = told("person a firm 0;person b firm 9;meet a b on 0;lumps 31-own;bed 1;");
+        due("25: not by 30", green.grip(0, 1), NONE);
         green = told("person a firm 9;person b firm 5;meet a b on 0;");
         due("26: b", green.pupil(1, 0), 1);
         due("26: hurt then", green.pupil(1, 1), 3);
@@ -596,6 +666,12 @@ public final class PromiseTest {
         green = told(both + "lumps (own < other)*10;");
         due("30: both or neither", green.duel(0), 2);
         CHECK.lies("30: both or neither", green, 0, 0);
+        green = told(both + "lumps (own < 5)*9;");
+        due("30: firmer by 5 at least", green.duel(0), 1);
+        CHECK.lies("30: firmer by 5 at least", green, 1, 1);
+        green = told(both + "lumps (own < 6)*9;");
+        due("30: and not by 6", green.duel(0), 1);
+        CHECK.lies("30: and not by 6", green, 0, 0);
         green = told(both + "lumps own < 5;");
         due("30: as good either way", green.duel(0), 4);
         CHECK.lies("30: as good either way", green, 0, 0);
