@@ -13,6 +13,8 @@ public final class FaultTest {
         brothers();
         settings();
         formulas();
+        firstOfSeveral();
+        onOneObject();
         CHECK.end();
     }
 
@@ -215,5 +217,76 @@ public final class FaultTest {
         fault(2, "lumps 1" + times(28, "+1") + "+(^1);");
         good("lumps 1" + times(27, "+1") + "+(1);", 0);
         fault(2, "lumps " + times(14, "(1)+") + "(1)+^1;");
+    }
+
+    /** The first by its place; at one place the least. */
+    private static void firstOfSeveral() {
+        fault(4, "bed ^0;bed 0;");
+        fault(4, "bed ^0 $");
+        fault(4, "bed ^100");
+        fault(1, "bed ^00100");
+        fault(1, "bed ^100x");
+        fault(1, "bed ^0a;");
+        fault(1, "^$ bed 0;");
+        fault(3, TWO + "person ^a firm 31;");
+        fault(2, SIX + "^person a firm 31;");
+        fault(5, TWO + "meet ^z z on 9;");
+        fault(3, TWO + "meet b ^b on 9;");
+        fault(5, TWO + "meet a ^y on 9;");
+        fault(3, TWO + "brother a cools 1 round b;brother ^a cools 0 round z;");
+        fault(4, TWO + "brother a cools ^0 round z z;");
+        fault(2, TWO + "brother a cools 1 round a;brother b cools 1 round a;^brother a cools 0 round z;");
+        fault(5, TWO + "brother a cools 1 round ^z z;");
+        fault(3, TWO + "brother a cools 1 round b ^b z;");
+        fault(5, TWO + "brother a cools 1 round b ^z b;");
+        fault(2, "lumps 1;^lumps $;");
+        fault(2, "lumps 1;bed 3;^lumps");
+        fault(2, "flares 0;^flares 101;");
+        fault(2, "draw 0;^draw 1000;");
+        fault(2, "bed 1;^bed 0;");
+        fault(2, TWO + times(9, "meet a b on 6;") + "^meet z z on 7;");
+        fault(2, "lumps 1" + times(29, "*1") + "/^(((((((((1;");
+        fault(2, "lumps 1" + times(29, "*1") + "^");
+        fault(2, "lumps 1" + times(29, "*1") + "+^");
+        fault(2, "lumps 1" + times(29, "*1") + "+^;");
+        fault(2, "lumps 1" + times(29, "*1") + "+^abcdefgh;");
+        fault(1, "lumps 1" + times(29, "*1") + "+^abcdefghi;");
+        fault(1, "lumps 1" + times(29, "*1") + "+^12345;");
+        fault(2, "lumps " + times(7, "(") + "1+^not 1");
+        fault(2, "lumps " + times(7, "(") + "1 and ^not 1");
+        fault(2, "lumps " + times(7, "(") + "1 and ^(1)");
+        fault(2, "lumps " + times(7, "(") + "1" + times(6, ")") + "^;");
+        fault(2, "lumps " + times(7, "(") + "1" + times(7, ")") + "^);");
+        good("lumps " + times(7, "(") + "1" + times(7, ")") + "+" + times(7, "(") + "1" + times(7, ")") + " and " + times(7, "not ")
+            + "1;", 0);
+    }
+
+    private static void next(NettleGreen green, String marked, int kind) {
+        int place = marked.indexOf('^');
+        Check.put(green, marked.replace("^", ""));
+        green.hamlet();
+        CHECK.due("fault, not the first text, of " + marked, green.fault(0), kind);
+        CHECK.due("place, not the first text, of " + marked, green.fault(1), place);
+    }
+
+    /** What one text told, or began to tell, is not told in the next one. */
+    private static void onOneObject() {
+        NettleGreen green = new NettleGreen();
+        String all = SIX + times(9, "meet a b on 0;") + "brother x cools 1 round a b;brother y cools 1 round b;"
+            + "bed 5;flares 5;draw 5;lumps 1" + times(29, "+1") + ";";
+        for (int i = 0; i < 3; i++) {
+            next(green, all, 0);
+            next(green, all + "^bed 5;", 2);
+            next(green, all + "^$", 1);
+            next(green, "meet ^a b on 0;", 5);
+            next(green, "brother x cools 1 round ^a;", 5);
+            next(green, "person a firm 1;meet a ^b on 0;", 5);
+            next(green, "person a firm ^31;", 4);
+            next(green, "person a firm 1;", 0);
+            next(green, "person b firm 1;person ^b firm 1;", 3);
+            next(green, "", 0);
+            next(green, "bed^", 2);
+            next(green, "bed 5;", 0);
+        }
     }
 }
